@@ -230,11 +230,11 @@ public final class TalkHouse {
     }
 
     public int ready() {
-        return stage.readyCount();
+        return stage.readies.size();
     }
 
     public int which(int k) {
-        return stage.readyAt(k);
+        return stage.readies.at(k);
     }
 
     public int step(int k) {
@@ -248,7 +248,7 @@ public final class TalkHouse {
         int drawn = seed;
         int count = 0;
         for (int i = 0; i < n; i++) {
-            int choices = stage.readyCount();
+            int choices = stage.readies.size();
             if (choices <= 0) {
                 break;
             }
@@ -1058,11 +1058,17 @@ public final class TalkHouse {
         private final Row sizes = new Row(MAX_OPEN + 1);
         private int level;
 
-        void start() {
+        Scope() {
             names.fill(0);
             talks.fill(NONE);
-            sizes.fill(GIVEN + 1);
+            sizes.fill(0);
+        }
+
+        /** Nothing is there, and the place of the CHANNEL given is kept for it. */
+        void start() {
             level = 0;
+            sizes.put(level, 0);
+            add(0, NONE);
         }
 
         void enter() {
@@ -1791,6 +1797,7 @@ public final class TalkHouse {
         private final Row saids = new Row(MAX_PROCESSES);
         private final Row slots = new Row(MAX_PROCESSES * ROOM);
         private final Row fresh = new Row(MAX_PARAMS);
+        private final Row readies = new Row(MAX_PROCESSES);
         private final Row saidNumbers = new Row(MAX_SAID);
         private final Row saidProcesses = new Row(MAX_SAID);
         private Book book;
@@ -1800,6 +1807,7 @@ public final class TalkHouse {
 
         Stage(Book book) {
             this.book = book;
+            slots.fill(0);
         }
 
         void start(Book newBook) {
@@ -1811,7 +1819,6 @@ public final class TalkHouse {
             steps.clear();
             has.clear();
             saids.clear();
-            slots.fill(0);
             fresh.clear();
             saidNumbers.clear();
             saidProcesses.clear();
@@ -1821,6 +1828,7 @@ public final class TalkHouse {
             addProcess();
             goOn(0, book.defNames.size() - 1);
             settle(0);
+            findReady();
         }
 
         int made() {
@@ -1900,31 +1908,14 @@ public final class TalkHouse {
             return book.channels.at(node) == GIVEN ? UP : DOWN;
         }
 
-        private boolean isReady(int p) {
-            return overs.at(p) == 0 && !isWaiting(p);
-        }
-
-        int readyCount() {
-            int count = 0;
-            for (int p = 0; p < made() && !spent; p++) {
-                if (isReady(p)) {
-                    count++;
+        /** Looked for once behind each change, for they are asked for more often than they change. */
+        private void findReady() {
+            readies.clear();
+            for (int p = 0; p < made(); p++) {
+                if (overs.at(p) == 0 && !isWaiting(p)) {
+                    readies.add(p);
                 }
             }
-            return count;
-        }
-
-        int readyAt(int k) {
-            int left = k;
-            for (int p = 0; p < made() && !spent && left >= 0; p++) {
-                if (isReady(p)) {
-                    if (left == 0) {
-                        return p;
-                    }
-                    left--;
-                }
-            }
-            return NONE;
         }
 
         /**
@@ -1932,13 +1923,14 @@ public final class TalkHouse {
          * settled too, for it may have come by this STEP.
          */
         int advance(int k) {
-            int p = readyAt(k);
+            int p = readies.at(k);
             if (p == NONE) {
                 return NONE;
             }
             boolean makes = book.ops.at(nodes.at(p)) == NEW;
             if (done >= MAX_STEPS || makes && made() >= MAX_PROCESSES) {
                 spent = true;
+                readies.clear();
                 return NONE;
             }
             done++;
@@ -1946,6 +1938,7 @@ public final class TalkHouse {
             doStep(p);
             settle(p);
             settle(made() - 1);
+            findReady();
             return p;
         }
 
