@@ -19,6 +19,7 @@ public final class FaultTest {
         argsTalks();
         lastDef();
         order();
+        longest();
         answers();
         Desk.finish();
     }
@@ -400,6 +401,12 @@ public final class FaultTest {
         Desk.refused(5, "def f()c:end=say " + Desk.times(4, "-(") + "~-1");
         Desk.taken("def f()c:end=say " + Desk.times(4, "-(") + "1-1-1" + Desk.times(4, ")") + "--1;close c");
         Desk.taken("def f()c:end=say " + Desk.times(4, "-1-(-1)*") + "1;close c");
+        String second = Desk.times(8, "if 1{close c}else{");
+        Desk.taken("def f()c:end=" + second + "close c" + Desk.times(8, "}"));
+        Desk.refused(5, "def f()c:end=" + second + "~if 1");
+        Desk.refused(5, "def f()c:end=" + second + "say ~(1)");
+        // what is closed is open no more
+        Desk.taken("def f()c:end=" + Desk.times(3, "say ((((1))))+(((2)))*----3;") + "close c");
         // an if is open within its E, too
         Desk.refused(5, "def f()c:end=" + Desk.times(7, "if 1{") + "if ~(1");
         Desk.taken("def f()c:end=" + Desk.times(7, "if 1{") + "if 1 {close c" + elses);
@@ -410,6 +417,16 @@ public final class FaultTest {
         Desk.taken(eight + "def f()c:i=" + Desk.times(8, "case c{a:") + "close c" + Desk.times(8, "}"));
         Desk.refused(5, eight + "def f()c:j=" + Desk.times(8, "case c{a:") + "~case c");
         Desk.refused(5, eight + "def f()c:j=" + Desk.times(8, "case c{a:") + "~case x");
+    }
+
+    private static void longest() {
+        Desk.refused(1, "~" + Desk.times(1000, ";"));
+        Desk.refused(1, "def f()c:end=close c" + Desk.times(979, " ") + "~;");
+        Desk.taken("def f()c:end=close c" + Desk.times(980, " "));
+        Desk.taken(Desk.times(980, "\n") + "def f()c:end=close c");
+        Desk.refused(1, Desk.times(981, " ") + "def f()c:end=close ~");
+        Desk.taken("def f()c:end=say " + Desk.times(486, "1+") + "1;close c ");
+        Desk.refused(1, "def f()c:end=say " + Desk.times(491, "1+") + "1~");
     }
 
     private static void answers() {

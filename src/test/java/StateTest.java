@@ -256,6 +256,16 @@ public final class StateTest {
         Desk.due("the other's first", x.said(0, 0), 1);
         Desk.due("then its own", x.said(1, 0), 2);
         Desk.due("all over", x.look(3), 0);
+        // what comes behind the join lies behind the other's
+        x.begin();
+        for (int p : new int[] {0, 0, 1, 1, 1, 1, 0}) {
+            stepOf(x, p);
+        }
+        channelIs(x, 1, 0, 2, 0);
+        Desk.due("to the end", x.run(1, 600), 7);
+        Desk.due("the other's first", x.said(0, 0), 1);
+        Desk.due("then what came later", x.said(1, 0), 2);
+        Desk.due("all over", x.look(3), 0);
     }
 
     private static void joinedTwice() {
