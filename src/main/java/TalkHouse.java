@@ -332,8 +332,13 @@ public final class TalkHouse {
         }
     }
 
-    private static boolean isLetter(int sign) {
+    private static boolean isSmallLetter(int sign) {
         return sign >= 'a' && sign <= 'z';
+    }
+
+    /** Capital letters stand in no NAME, but a NUMBER has none behind it either. */
+    private static boolean isLetter(int sign) {
+        return isSmallLetter(sign) || sign >= 'A' && sign <= 'Z';
     }
 
     private static boolean isDigit(int sign) {
@@ -498,7 +503,7 @@ public final class TalkHouse {
         /** How many bytes the token or blank at i has. */
         private int cutToken(Row text, int i) {
             int sign = text.at(i);
-            if (isLetter(sign)) {
+            if (isSmallLetter(sign)) {
                 return cutLetters(text, i);
             }
             if (isDigit(sign)) {
@@ -518,7 +523,7 @@ public final class TalkHouse {
         private int cutLetters(Row text, int start) {
             int name = 0;
             int length = 0;
-            for (int i = start; i < text.size() && isLetter(text.at(i)); i++) {
+            for (int i = start; i < text.size() && isSmallLetter(text.at(i)); i++) {
                 name = withLetter(name, length, text.at(i));
                 length++;
             }

@@ -373,7 +373,7 @@ final class Author {
 
     private static final String[] TOKENS = {"type", "def", "end", "put", "get", "send", "take", "pick", "case", "new",
         "same", "go", "if", "else", "say", "close", "wait", "(", ")", "{", "}", ",", ";", ":", ".", "=", "==", "!", "?",
-        ">", "<", "+", "-", "*", "&", "|", "1", "12345", "2x", "tooolong", "#", "", " ", "a", "b", "c", "d", "x", "fa",
+        ">", "<", "+", "-", "*", "&", "|", "1", "12345", "2x", "3X", "A", "tooolong", "#", "", " ", "a", "b", "c", "d", "x", "fa",
         "fb", "((", "--", "if 1{", "!!!!", "f()", "((((((((", "--------", "!!!!!!!!!!", "if 1{if 2{if 3{if 4{if 5{"};
 
     /** The text with one or two tokens changed, left out, doubled, or changed with one another. */

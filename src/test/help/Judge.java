@@ -131,7 +131,7 @@ final class Judge {
                 while (i < text.length() && text.charAt(i) >= '0' && text.charAt(i) <= '9') {
                     i++;
                 }
-                boolean letter = i < text.length() && text.charAt(i) >= 'a' && text.charAt(i) <= 'z';
+                boolean letter = text.substring(i).matches("(?s)[A-Za-z].*");
                 tokens.add(new Token(i - start > 4 || letter ? 'b' : 'd', text.substring(start, i), start));
             } else if (text.startsWith("==", i)) {
                 i += 2;

@@ -6,6 +6,7 @@ public final class FaultTest {
 
     public static void main(String[] args) {
         tokens();
+        numbersAheadOfLetters();
         grammar();
         talks();
         names();
@@ -52,6 +53,29 @@ public final class FaultTest {
         Desk.refused(1, "def f()c:end=say 1~= =1;close c");
         Desk.refused(1, "def f()c:end=say 1==~=1;close c");
         Desk.refused(1, "def f()c:end=say 1 ~2;close c");
+    }
+
+    /** Capital letters are letters, too; what stands beside them in the table of signs is none. */
+    private static void numbersAheadOfLetters() {
+        for (int sign = 0; sign < 256; sign++) {
+            char letter = (char) sign;
+            if (letter >= 'a' && letter <= 'z' || letter >= 'A' && letter <= 'Z') {
+                Desk.refused(1, "def f()c:end=say ~1" + letter + ";close c");
+                Desk.refused(1, "def f()c:end=say 2+(~1234" + letter);
+                Desk.refused(1, "def f()c:!end=put c~0" + letter + ";close c");
+                Desk.refused(1, NUMS + "def f()c:end=go n(1,~22" + letter + ")");
+            } else if ("@[`{/:\u00c0\u00e9\u0000".indexOf(letter) >= 0) {
+                Desk.refused(1, "def f()c:end=say 1~" + letter + ";close c");
+            }
+        }
+        Desk.refused(1, "def f()c:end=if ~1C{close c}else{close c}");
+        Desk.refused(1, "def f()c:end=say ~12345A;close c");
+        Desk.refused(1, "def f()c:end=say 1 ~A;close c");
+        Desk.refused(1, "def f()c:end=say 1\n~a;close c");
+        Desk.refused(1, "def f()c:end=say ~1A");
+        Desk.refused(1, "def f()c:end=close c~A");
+        Desk.refused(1, "def f()c~A:end=close c");
+        Desk.refused(1, "def f()c:end=close c ~1A");
     }
 
     private static void grammar() {
