@@ -4,15 +4,21 @@ import java.nio.charset.StandardCharsets;
 final class Desk {
     private static int wrong = 0;
     private static int asked = 0;
+    private static String sentence = "";
 
     private Desk() {
+    }
+
+    /** The sentence of the document that is asked for from here on; it is told with each wrong answer. */
+    static void sentence(String words) {
+        sentence = "[" + words + "] ";
     }
 
     static void due(String call, long got, long want) {
         asked++;
         if (got != want) {
             wrong++;
-            System.out.println(call + " answered " + got + ", due is " + want);
+            System.out.println(sentence + call + " answered " + got + ", due is " + want);
         }
     }
 
@@ -24,7 +30,7 @@ final class Desk {
         asked++;
         if (!got.equals(want)) {
             wrong++;
-            System.out.println(call + " answered '" + got + "', due is '" + want + "'");
+            System.out.println(sentence + call + " answered '" + got + "', due is '" + want + "'");
         }
     }
 
@@ -58,10 +64,10 @@ final class Desk {
         return house;
     }
 
-    /** A text that must be refused; the sign ~ stands ahead of the place of the fault. */
+    /** A text that must be refused; the first sign ~ stands ahead of the place of the fault. */
     static void refused(int fault, String marked) {
         int place = marked.indexOf('~');
-        String text = marked.replace("~", "");
+        String text = marked.substring(0, place) + marked.substring(place + 1);
         TalkHouse house = new TalkHouse();
         due("load of: " + marked, load(house, text), TalkHouse.NONE);
         due("fault(0) of: " + marked, house.fault(0), fault);
