@@ -182,14 +182,27 @@ final class Author {
         defs.add(new Def(name, params, gives));
     }
 
+    private static boolean knows(World world, String name) {
+        return name.equals(world.given) || world.has.containsKey(name) || world.numbers.contains(name);
+    }
+
     private String fresh(World world) {
         for (int i = 0; i < 50; i++) {
             String name = NAMES[chance.nextInt(NAMES.length)];
-            if (!name.equals(world.given) && !world.has.containsKey(name) && !world.numbers.contains(name)) {
+            if (!knows(world, name)) {
                 return name;
             }
         }
-        return "q" + (char) ('a' + chance.nextInt(26)) + (char) ('a' + chance.nextInt(26));
+        int first = chance.nextInt(26 * 26);
+        String name = longer(first);
+        for (int i = 1; knows(world, name) && i < 26 * 26; i++) {
+            name = longer((first + i) % (26 * 26));
+        }
+        return name;
+    }
+
+    private static String longer(int n) {
+        return "q" + (char) ('a' + n / 26) + (char) ('a' + n % 26);
     }
 
     private String sum(World world, int depth) {

@@ -22,6 +22,7 @@ public final class CallEdgeTest {
         loadsOfFaults();
         loadsWithoutText();
         loadsOneBehindAnother();
+        longTextsOneBehindAnother();
         faults();
         looks();
         defs();
@@ -296,12 +297,51 @@ public final class CallEdgeTest {
                     for (int k = i; k < FAULTY.length; k += 3) {
                         Desk.due("a fault", Desk.load(x, FAULTY[k]), NONE);
                     }
+                    for (int k = 0; k < i; k++) {
+                        Desk.due("one between them", Desk.load(x, LAST), 1);
+                    }
                     Desk.due("load", Desk.load(x, second), Desk.taken(second).look(1));
                     compareRuns(x, Desk.taken(second));
                     x.begin();
                     compareRuns(x, Desk.taken(second));
                 }
             }
+        }
+    }
+
+    /** Within its 512 calls an object can read a long text nine times, and a shorter one more often. */
+    private static void longTextsOneBehindAnother() {
+        Desk.sentence("TEXTS of at most 1000 bytes: as many as an object's calls can feed");
+        String sum = "def f()c:end=say " + Desk.times(487, "1+") + "0;close c";
+        TalkHouse x = new TalkHouse();
+        for (int i = 0; i < 9; i++) {
+            Desk.due("a long E", Desk.load(x, sum), 1);
+            Desk.due("steps", x.run(1, 600), 2);
+            Desk.due("its worth", x.said(0, 0), 487);
+        }
+        String args = "def e(p,q,r,s)c:end=say s;close c def f()c:end="
+            + Desk.times(36, "new d=e(1,2,3,4);wait d;") + "go e(5,6,7,8)";
+        TalkHouse y = new TalkHouse();
+        for (int i = 0; i < 9; i++) {
+            Desk.due("many ARGS", Desk.load(y, args), 2);
+            Desk.due("steps", y.run(1, 600), 36 * 4 + 1 + 2);
+            Desk.due("the first ones", y.said(0, 0), 4);
+            Desk.due("the last ones", y.said(36, 0), 8);
+        }
+        TalkHouse z = new TalkHouse();
+        for (int i = 0; i < 20; i++) {
+            StringBuilder types = new StringBuilder("type a=!!!!!!!");
+            for (int bit = 0; bit < 5; bit++) {
+                types.append("!?".charAt(i >> bit & 1));
+            }
+            types.append("end;");
+            for (char k = 'b'; k <= 'l'; k++) {
+                types.append("type ").append(k).append('=').append(Desk.times(12, "?")).append((char) (k - 1)).append(';');
+            }
+            Desk.due("many Ts", Desk.load(z, types + "def f(x:l)c:l=same c x " + LAST), 2);
+            Desk.due("print", z.print(0, 0), 2 * 144 + 3);
+            Desk.due("its last sign", z.out(2 * 143), "!?".charAt(i >> 4 & 1));
+            Desk.due("its last but four", z.out(2 * 139), "!?".charAt(i & 1));
         }
     }
 
@@ -479,6 +519,16 @@ public final class CallEdgeTest {
                 Desk.due("CHOICE", Desk.printed(y, 0, 0), sign + " { " + sorted[i] + " }");
             }
         }
+        Desk.sentence("print: as deep as a T can be: 12 types and a T, each with 12 that are open");
+        StringBuilder types = new StringBuilder("type a=" + Desk.times(12, "?") + "end;");
+        for (char k = 'b'; k <= 'l'; k++) {
+            types.append("type ").append(k).append('=').append(Desk.times(12, "?")).append((char) (k - 1)).append(';');
+        }
+        String most = Desk.times(11, "!") + "<end.l";
+        TalkHouse deep = Desk.taken(types + "def f(x:" + most + ")c:" + most + "=same c x " + LAST);
+        String asText = Desk.times(11, "! ") + "< end . " + Desk.times(144, "? ") + "end";
+        Desk.due("PARAM", Desk.printed(deep, 0, 0), asText);
+        Desk.due("given", Desk.printed(deep, 0, NONE), asText);
         Desk.sentence("blanks within the brackets at both ends");
         TalkHouse z = Desk.taken("def f(a:+{a:end},b:>+{a:end}.&{a:+{b:end}})c:&{a:end}=case a{a:wait a;take b d;"
             + "case d{a:wait d;pick b a;case b{b:wait b;case c{a:close c}}}} " + LAST);

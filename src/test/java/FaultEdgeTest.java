@@ -13,6 +13,7 @@ public final class FaultEdgeTest {
         closedTalks();
         parts();
         partsOfNames();
+        partsOfLaterTexts();
         thirteenthOfTexts();
         fifthParam();
         seventhName();
@@ -129,6 +130,25 @@ public final class FaultEdgeTest {
         Desk.refused(5, choices + "type k=>h.>h.>g.+{x:m,y:m,z:b,w:~end};" + LAST);
     }
 
+    /** The parts of a text's Ts have nothing to do with those of the texts ahead of it. */
+    private static void partsOfLaterTexts() {
+        Desk.sentence("in a T the 201st part: in each text anew");
+        String ahead = "type a=!!!!!!!!!!!!end;type b=+{x:a,y:!end};";
+        String full = SIZES + "type k=>h.>h.>h.!d;" + LAST;
+        String over = SIZES + "type k=>h.>h.>h.!!d;" + LAST;
+        TalkHouse x = new TalkHouse();
+        for (int i = 0; i < 4; i++) {
+            Desk.due("load of others", Desk.load(x, ahead + LAST), 1);
+            if (i % 2 == 0) {
+                Desk.due("load of others", Desk.load(x, ahead + LAST), 1);
+            }
+            Desk.due("load of 200 parts", Desk.load(x, full), 1);
+            Desk.due("load of 201 parts", Desk.load(x, over), TalkHouse.NONE);
+            Desk.due("its fault", x.fault(0), 5);
+            Desk.due("its place", x.fault(1), over.indexOf("!!d") + 2);
+        }
+    }
+
     private static String twelve(String each) {
         StringBuilder text = new StringBuilder();
         for (char k = 'a'; k <= 'l'; k++) {
@@ -181,6 +201,9 @@ public final class FaultEdgeTest {
             Desk.taken("type t=" + all + "end" + Desk.times(12, "}") + ";" + LAST);
             Desk.refused(5, "type t=" + all + "end,~i:end" + Desk.times(12, "}") + ";" + LAST);
             Desk.refused(5, "type t=" + all + "end" + Desk.times(11, "}") + ",~i:end};" + LAST);
+            TalkHouse x = Desk.taken("type t=" + all + "end" + Desk.times(12, "}") + ";def f(x:t)c:t=same c x " + LAST);
+            String begin = sign + " { a : end , b : end , d : end , e : end , g : end , h : ";
+            Desk.due("12 with six each", Desk.printed(x, 0, 0), Desk.times(12, begin) + "end" + Desk.times(12, " }"));
             Desk.taken("type t=" + sign + "{a:" + six + "},b:" + six + "},d:end,e:end,g:end,h:" + six + "}};" + LAST);
         }
     }

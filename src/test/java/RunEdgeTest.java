@@ -20,6 +20,10 @@ public final class RunEdgeTest {
         ifs();
         ifsAtBeginnings();
         processEighty();
+        allChannelsDown();
+        allChannelsUp();
+        longestChain();
+        mostMessages();
         sixHundredSteps();
         spentByRun();
         spentBeforeNew();
@@ -459,6 +463,138 @@ public final class RunEdgeTest {
             }
         }
         return states;
+    }
+
+    /** PROCESSES 0 to 79: 8 of b, each with 8 of a, and 7 more of a; each a has a number of its own, from 0 on. */
+    private static String eightyTalks(String leaf, String talk, String says) {
+        StringBuilder text = new StringBuilder(leaf + " def b(x)c:end=");
+        for (int i = 0; i < 8; i++) {
+            text.append(talk.replace("#", "x+" + i).replace("%", "" + (char) ('p' + i)));
+        }
+        text.append(named(8, says)).append("close c def f()c:end=");
+        for (int i = 0; i < 8; i++) {
+            text.append("new d=b(").append(8 * i).append(");wait d;");
+        }
+        for (int i = 0; i < 7; i++) {
+            text.append(talk.replace("#", "" + (64 + i)).replace("%", "" + (char) ('p' + i)));
+        }
+        return text + named(7, says) + "close c";
+    }
+
+    private static void allChannelsDown() {
+        Desk.sentence("PROCESS 79 and CHANNEL 79 are there, and MESSAGES go DOWN in all of them");
+        TalkHouse x = Desk.taken(eightyTalks("def a(x)c:!end=put c x;close c", "new d=a(#);get d %;wait d;", "say %;"));
+        Desk.due("all STEPS", x.run(1, 600), 71 * 5 + 8 * 9 + 16 + 8);
+        Desk.due("PROCESSES", x.look(2), 80);
+        Desk.due("CHANNELS", x.look(4), 80);
+        Desk.due("not SPENT", x.look(7), 0);
+        Desk.due("all OVER", x.look(3), 0);
+        for (int i = 0; i < 71; i++) {
+            Desk.due("said(" + i + ", 0)", x.said(i, 0), i);
+        }
+        Desk.due("said(71, 0)", x.said(71, 0), NONE);
+    }
+
+    private static void allChannelsUp() {
+        Desk.sentence("PROCESS 79 and CHANNEL 79 are there, and MESSAGES go UP in all of them");
+        TalkHouse x = Desk.taken(eightyTalks("def a()c:?end=get c x;say x;close c", "new d=a();put d #;wait d;", ""));
+        Desk.due("all STEPS", x.run(1, 600), 71 * 6 + 8 + 16 + 1);
+        Desk.due("PROCESSES", x.look(2), 80);
+        Desk.due("CHANNELS", x.look(4), 80);
+        Desk.due("all OVER", x.look(3), 0);
+        for (int i = 0; i < 71; i++) {
+            Desk.due("said(" + i + ", 0)", x.said(i, 0), i);
+            int by = i < 64 ? i + 2 + i / 8 : i + 9;
+            Desk.due("said(" + i + ", 1)", x.said(i, 1), by);
+        }
+    }
+
+    /** PROCESS 1 gives what all of 2 to 79 hand on, each to the next one. */
+    private static void longestChain() {
+        Desk.sentence("same: the CHANNEL given and the other become one; whoever has or gives the other has that one");
+        StringBuilder hands = new StringBuilder();
+        String[] both = {"new b=s(a);", "new a=s(b);"};
+        for (int i = 0; i < 39; i++) {
+            hands.append(both[i % 2]);
+        }
+        String more = hands.toString().replace("a", "#").replace("b", "a").replace("#", "b");
+        String text = "def e()c:!end=put c 5;close c def s(d:!end)c:!end=same c d def g(b:!end)c:end=" + more
+            + "get a x;say x;wait a;close c def f()c:end=new a=e();" + hands + "go g(b)";
+        TalkHouse x = Desk.taken(text);
+        for (int seed = -2; seed < 8; seed++) {
+            x.begin();
+            for (int i = 0; i < 80; i++) {
+                stepOf(x, 0);
+            }
+            Desk.due("PROCESSES", x.look(2), 80);
+            Desk.due("PROCESS 0 WAITS", x.process(0, 2), 1);
+            if (seed >= 0) {
+                Desk.due("all but PROCESS 0", x.run(seed, 80), 80);
+            } else {
+                for (int i = 2; i <= 79; i++) {
+                    stepOf(x, seed == -1 ? i : 81 - i);
+                    Desk.due("PROCESS 1 gives", x.process(1, 4), seed == -1 ? i : i == 79 ? 79 : 1);
+                }
+                stepOf(x, 1);
+                stepOf(x, 1);
+            }
+            for (int c = 1; c <= 79; c++) {
+                rows(x, c, seed >= 0 ? x.channel(79, 0) : 2, 0, c == 79 ? 0 : 1);
+                Desk.due("MESSAGE 0 of " + c, x.message(c, 0, 1), x.message(79, 0, 1));
+            }
+            x.run(3, 600);
+            Desk.due("steps", x.look(5), 80 + 78 + 2 + 4);
+            Desk.due("said", x.said(0, 0), 5);
+            Desk.due("all OVER", x.look(3), 0);
+        }
+    }
+
+    /** 14 PROCESSES lay 36 numbers and the END each, and nobody takes any until all are laid. */
+    private static void mostMessages() {
+        Desk.sentence("put, send, pick, close lay a MESSAGE behind the others, however many lie there");
+        StringBuilder puts = new StringBuilder();
+        StringBuilder gets = new StringBuilder();
+        for (int i = 0; i < 36; i++) {
+            puts.append("put c").append(i % 10).append(';');
+            gets.append("get p ").append((char) ('q' + i / 12)).append((char) ('a' + i % 12)).append(';');
+        }
+        StringBuilder news = new StringBuilder();
+        StringBuilder waits = new StringBuilder();
+        for (char k = 'd'; k < 'd' + 14; k++) {
+            news.append("new ").append(k).append("=m();");
+            waits.append("wait ").append(k).append(';');
+        }
+        String shut = Desk.times(12, "!");
+        TalkHouse x = Desk.taken("type a=" + shut + "end;type b=" + shut + "a;type d=" + shut + "b;def a()c:d=" + puts
+            + "close c def k(p:d)c:end=" + gets + "wait p;close c def m()c:end=new p=a();new q=k(p);wait q;close c "
+            + "def z()c:end=" + news + waits + "close c");
+        for (int i = 0; i < 14; i++) {
+            stepOf(x, 0);
+        }
+        for (int p = 1; p <= 14; p++) {
+            stepOf(x, p);
+            stepOf(x, p);
+        }
+        for (int i = 0; i < 37; i++) {
+            for (int p = 15; p < 43; p += 2) {
+                stepOf(x, p);
+            }
+        }
+        for (int c = 15; c < 43; c += 2) {
+            rows(x, c, 37, 0, 0);
+            for (int i = 0; i <= 37; i++) {
+                Desk.due("kind of " + i + " in " + c, x.message(c, i, 0), i < 36 ? 0 : i == 36 ? 3 : NONE);
+                Desk.due("MESSAGE " + i + " in " + c, x.message(c, i, 1), i < 36 ? i % 10 : i == 36 ? 0 : NONE);
+            }
+        }
+        for (int i = 0; i < 3; i++) {
+            stepOf(x, 42);
+            stepOf(x, 16);
+            Desk.due("the first of 41", x.message(41, 0, 1), i + 1);
+            Desk.due("the first of 15", x.message(15, 0, 1), i + 1);
+        }
+        Desk.due("up to 600", x.run(1, 600), 600 - 14 * 40 - 6);
+        Desk.due("SPENT", x.look(7), 1);
     }
 
     /** One after another: 11 times 49 STEPS, and 22 + says + 1 of PROCESS 0. */

@@ -203,7 +203,7 @@ public final class TokenEdgeTest {
             String start = WHOLE.substring(0, place);
             String rest = WHOLE.substring(place + here.length());
             Desk.taken(start + here + rest);
-            // another sign in its place: it can't stand there, or something else is wrong, but it is no SIGN of one's own
+            // what is no SIGN can't stand in its place
             for (String bad : new String[] {"#", "/", "[", "]", "@", "_", "^", "\"", "'", "%", "$", "\\"}) {
                 Desk.refused(1, start + "~" + bad + rest);
             }
