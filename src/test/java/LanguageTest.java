@@ -1,3 +1,4 @@
+import com.sun.source.tree.ArrayAccessTree;
 import com.sun.source.tree.AssertTree;
 import com.sun.source.tree.BinaryTree;
 import com.sun.source.tree.BlockTree;
@@ -55,6 +56,7 @@ public final class LanguageTest {
         "java.lang.String.equals", "java.lang.String.substring", "java.lang.Math.max", "java.lang.Math.min",
         "java.lang.Math.abs", "java.lang.System.arraycopy"));
     private static final Set<String> TYPES = new HashSet<>(Arrays.asList("int", "int[]", "boolean", "String"));
+    private static final List<String> INDEXERS = List.of("Row", "Cursor");
     private static final int LINES = 60;
     private static final int PARAMETERS = 7;
     private static final int CLASSES = 12;
@@ -256,6 +258,11 @@ public final class LanguageTest {
             boolean text = typeOf(tree.getLeftOperand()).equals("java.lang.String")
                 || typeOf(tree.getRightOperand()).equals("java.lang.String");
             rule(10, "no text by a sign in line " + line(tree, false), !text);
+            boolean divides = tree.getKind() == Tree.Kind.DIVIDE || tree.getKind() == Tree.Kind.REMAINDER;
+            boolean written = tree.getRightOperand().getKind() == Tree.Kind.INT_LITERAL;
+            boolean inRun = method != null && method.getSimpleName().contentEquals("run");
+            rule(7, "only run divides by what is not written out: line " + line(tree, false),
+                !divides || written || inRun);
             return super.visitBinary(tree, none);
         }
 
@@ -264,6 +271,14 @@ public final class LanguageTest {
             boolean text = typeOf(tree.getVariable()).equals("java.lang.String");
             rule(10, "no text by += in line " + line(tree, false), !text);
             return super.visitCompoundAssignment(tree, none);
+        }
+
+        /** Few places look into arrays, so that it can be seen that each looks at the index first. */
+        @Override
+        public Void visitArrayAccess(ArrayAccessTree tree, Void none) {
+            String place = method == null ? "" : method.getEnclosingElement().getSimpleName().toString();
+            rule(7, "only Row and Cursor index arrays: line " + line(tree, false), INDEXERS.contains(place));
+            return super.visitArrayAccess(tree, none);
         }
 
         /** The class keeps to loops that count, so that their end can be seen. */
